@@ -212,6 +212,7 @@ public final class LinksTest {
         C.due("7 is none", () -> x.isObstacle(3, 4), false);
         C.due("7 is one", () -> x.isObstacle(3, 3), true);
         C.due("7 order", () -> x.obstacle(1, false), 5);
+        C.due("7 order, y", () -> x.obstacle(1, true), 3);
         C.due("7 first", () -> x.obstacle(0, false), 3);
         C.index("7 two left", () -> x.obstacle(2, false));
         C.element("7 gone", () -> x.removeObstacle(3, 4));

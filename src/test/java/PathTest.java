@@ -11,6 +11,7 @@ public final class PathTest {
         planSmoothRefused();
         planNear();
         noPath();
+        corner();
         pathStays();
         pathGoes();
         pathMove();
@@ -129,6 +130,12 @@ public final class PathTest {
         movesAre("34 one kind", x, 1, 1);
         C.due("34 two kinds", () -> x.planSmooth(-1, 2), 1);
         movesAre("34 two kinds", x, 1, 1, 3, 3);
+        LatticeArm y = arm(1, 0, 1, 1, 1, 1);
+        C.due("34 to the first pose", () -> y.planSmooth(2, -1), 0);
+        movesAre("34 to the first pose", y, 2);
+        LatticeArm z = arm(1, 2, 2, 2, 2, 2);
+        C.due("34 two orders", () -> z.planSmooth(-2, -1), 1);
+        movesAre("34 two orders", z, 0, 0, 2, 2);
         smoothBeatsBest();
     }
 
@@ -206,6 +213,32 @@ public final class PathTest {
         C.argument("40 negative first", () -> x.back(-1));
     }
 
+    /** In the first cell of the area, at its corner. */
+    private static void corner() {
+        LatticeArm x = arm(5, 8, 8, 5, 1, 1);
+        x.setValue(0, -3);
+        C.due("27 straight and bent", x::reachableCells, 16);
+        C.due("33 here", () -> x.planToCell(-10, -10), 0);
+        C.due("41 one", x::pathCells, 1);
+        x.setValue(0, 0);
+        C.due("33 there", () -> x.planToCell(-10, -10), 3);
+        C.due("41 four", x::pathCells, 4);
+        C.due("34 there", () -> x.planSmooth(-10, -10), 0);
+        C.due("35 there", () -> x.planNear(-10, -10), 0);
+        C.due("25 there", () -> x.posesAt(-10, -10), 2);
+        x.setLimits(0, 3, 3);
+        C.due("26 all", x::connected, 21);
+        C.due("22 all", x::freePoses, 21);
+        C.due("27 all", x::reachableCells, 15);
+        x.setLimits(1, 0, 0);
+        C.due("26 straight ones", x::connected, 7);
+        C.due("27 straight ones", x::reachableCells, 7);
+        C.due("28 x", () -> x.favorite(false), -10);
+        C.due("28 y", () -> x.favorite(true), -10);
+        C.due("30 one", x::groups, 1);
+        C.due("29 farthest", x::farthest, 3);
+    }
+
     /** A path stays at calls that fail or that are no change. */
     private static void pathStays() {
         LatticeArm x = arm(2, 4, 4);
@@ -261,6 +294,17 @@ public final class PathTest {
                 C.element("36 after call " + i, x::pathLength);
             }
         }
+        x.clear();
+        x.addLink(1, 2, 2);
+        x.planToPose(0);
+        x.follow(1);
+        x.setValue(0, 1);
+        C.element("36 gone", x::pathLength);
+        C.element("37 gone", () -> x.pathMove(0));
+        C.element("38 gone", x::pathChanges);
+        C.element("39 gone", () -> x.follow(1));
+        C.element("40 gone", () -> x.back(1));
+        C.element("41 gone", x::pathCells);
     }
 
     private static void pathMove() {

@@ -165,6 +165,19 @@ public final class PoseTest {
         }
         y.setValue(3, 4);
         faultIs("16 out and back", y, 1, 2);
+        LatticeArm z = arm(5, 5, 5);
+        C.due("17 asked first", z::faultyLink, 2);
+        z.setValue(0, 1);
+        z.setValue(1, 1);
+        z.setValue(2, 2);
+        z.addObstacle(4, 4);
+        C.due("17 asked first, obstacle", z::faultyLink, 0);
+        z.setValue(1, 4);
+        z.removeObstacle(4, 4);
+        C.due("17 asked first, overlap", z::faultyLink, 1);
+        z.setValue(1, 2);
+        z.setValue(2, 2);
+        C.element("17 asked first, free", z::faultyLink);
     }
 
     private static void obstacles() {
