@@ -40,11 +40,12 @@ public final class LinksTest {
         C.element("1 error", x::errorPosition);
         C.state("1 restore", x::restore);
         for (int cx = -10; cx <= 10; cx++) {
+            LatticeArm another = new LatticeArm();
             for (int cy = -10; cy <= 10; cy++) {
                 int a = cx;
                 int b = cy;
-                C.due("1 obstacle", () -> x.isObstacle(a, b), false);
-                C.due("1 links at", () -> x.linksAt(a, b), 0);
+                C.due("1 obstacle", () -> another.isObstacle(a, b), false);
+                C.due("1 links at", () -> another.linksAt(a, b), 0);
             }
         }
     }
