@@ -17,7 +17,7 @@ public final class LatticeArm {
     private static final int MAX_NAMES = 6;
     private static final int LETTERS = 26;
     private static final int MAX_INPUT = 60;
-    /** More changes than any path has. */
+    /** More than any distance, and more changes than any path has. */
     private static final int NEVER = 1000000;
     private static final int[] STEP_X = {1, 1, 0, -1, -1, -1, 0, 1};
     private static final int[] STEP_Y = {0, 1, 1, 1, 0, -1, -1, -1};
@@ -244,9 +244,9 @@ public final class LatticeArm {
             throw new NoSuchElementException("there are no links or no obstacles");
         }
         walk.along(now, now.value);
-        int least = distanceToObstacles(0, 0);
+        int least = NEVER;
         for (int link = 0; link < now.links && link < MAX_LINKS; link++) {
-            for (int step = 1; step <= now.length[link]; step++) {
+            for (int step = 0; step <= now.length[link]; step++) {
                 least = Math.min(least, distanceToObstacles(walk.cellX(link, step), walk.cellY(link, step)));
             }
         }
@@ -460,7 +460,6 @@ public final class LatticeArm {
 
     public int pathCells() throws NoSuchElementException {
         requirePath();
-        space.survey(now);
         Arrays.fill(tally, 0);
         int different = 0;
         int pose = route.start;
@@ -673,7 +672,7 @@ public final class LatticeArm {
     }
 
     private int distanceToObstacles(int x, int y) {
-        int least = Integer.MAX_VALUE;
+        int least = NEVER;
         for (int i = 0; i < now.obstacles && i < MAX_OBSTACLES; i++) {
             least = Math.min(least, distance(x, y, now.obstacleX[i], now.obstacleY[i]));
         }

@@ -65,6 +65,12 @@ final class LinkPromises {
         c.due("room for links", () -> x.addLink(5, 8, 8), 0);
         c.due("room for obstacles", () -> x.addObstacle(9, 9), 1);
         c.due("the value is 0", () -> x.joint(0, 0), 0);
+        LatticeArm all = Arms.rich();
+        all.clear();
+        for (int cell = 0; cell < 441; cell++) {
+            int k = cell;
+            c.due("cell " + cell, () -> all.isObstacle(k / 21 - 10, k % 21 - 10), false);
+        }
         LatticeArm y = new LatticeArm();
         y.clear();
         c.due("of a new object", () -> Portrait.of(y), Portrait.of(new LatticeArm()));

@@ -156,6 +156,14 @@ final class PathPromises {
             pathIs("the first cell of the area", y, 0, 0, 0);
             y.planSmooth(-10, 0);
             pathIs("two poses as near", y, 0, 0, 0, 0);
+            LatticeArm w = Arms.arm(1, 0, 1, 1, 1, 1);
+            w.planSmooth(2, -1);
+            pathIs("to the first pose of all", w, 2);
+            w.setValue(0, 1);
+            w.setValue(1, -1);
+            w.addObstacle(2, 2);
+            w.planSmooth(2, 0);
+            pathIs("through the first pose of all", w, 0, 3);
             LatticeArm z = new LatticeArm();
             z.planSmooth(0, 0);
             pathIs("no links", z);

@@ -22,16 +22,8 @@ public final class PathTest {
         C.end();
     }
 
-    private static LatticeArm arm(int... numbers) {
-        LatticeArm x = new LatticeArm();
-        for (int i = 0; i + 2 < numbers.length; i += 3) {
-            x.addLink(numbers[i], numbers[i + 1], numbers[i + 2]);
-        }
-        return x;
-    }
-
     private static LatticeArm tooMany() {
-        return arm(1, 8, 8, 1, 8, 8, 1, 8, 8, 1, 0, 1);
+        return Arms.arm(1, 8, 8, 1, 8, 8, 1, 8, 8, 1, 0, 1);
     }
 
     private static void movesAre(String what, LatticeArm x, int... moves) {
@@ -47,7 +39,7 @@ public final class PathTest {
         LatticeArm none = new LatticeArm();
         C.due("32 no links", () -> none.planToPose(0), 0);
         movesAre("32 no links", none);
-        LatticeArm x = arm(1, 2, 2, 1, 2, 2);
+        LatticeArm x = Arms.arm(1, 2, 2, 1, 2, 2);
         C.due("32 itself", () -> x.planToPose(12), 0);
         movesAre("32 itself", x);
         C.due("32 corner", () -> x.planToPose(0), 4);
@@ -56,7 +48,7 @@ public final class PathTest {
         movesAre("32 other corner", x, 1, 1, 3, 3);
         C.due("32 third corner", () -> x.planToPose(20), 4);
         movesAre("32 third corner", x, 1, 1, 2, 2);
-        LatticeArm y = arm(2, 0, 1, 1, 0, 2);
+        LatticeArm y = Arms.arm(2, 0, 1, 1, 0, 2);
         y.addObstacle(3, 1);
         C.due("32 round an obstacle", () -> y.planToPose(2), 4);
         movesAre("32 round an obstacle", y, 1, 3, 3, 0);
@@ -65,7 +57,7 @@ public final class PathTest {
     }
 
     private static void planToPoseRefused() {
-        LatticeArm x = arm(2, 1, 1);
+        LatticeArm x = Arms.arm(2, 1, 1);
         x.addObstacle(2, 2);
         C.index("32 pose 3", () -> x.planToPose(3));
         C.index("32 pose -1", () -> x.planToPose(-1));
@@ -85,7 +77,7 @@ public final class PathTest {
     private static void planToCell() {
         LatticeArm none = new LatticeArm();
         C.due("33 no links", () -> none.planToCell(0, 0), 0);
-        LatticeArm x = arm(3, 8, 8);
+        LatticeArm x = Arms.arm(3, 8, 8);
         C.due("33 here", () -> x.planToCell(3, 0), 0);
         C.due("33 either way", () -> x.planToCell(-3, 0), 4);
         movesAre("33 either way", x, 0, 0, 0, 0);
@@ -94,7 +86,7 @@ public final class PathTest {
         x.addObstacle(1, -1);
         C.due("33 round", () -> x.planToCell(0, -3), 6);
         movesAre("33 round", x, 1, 1, 1, 1, 1, 1);
-        LatticeArm y = arm(2, 8, 8, 1, 8, 8);
+        LatticeArm y = Arms.arm(2, 8, 8, 1, 8, 8);
         C.due("33 two ways", () -> y.planToCell(2, 1), 2);
         movesAre("33 two ways", y, 3, 3);
         C.due("33 straight", () -> y.planToCell(0, 3), 2);
@@ -104,7 +96,7 @@ public final class PathTest {
     }
 
     private static void planToCellRefused() {
-        LatticeArm x = arm(3, 2, 2);
+        LatticeArm x = Arms.arm(3, 2, 2);
         C.index("33 x", () -> x.planToCell(11, 0));
         C.index("33 y", () -> x.planToCell(0, -11));
         C.element("33 no pose", () -> x.planToCell(1, 0));
@@ -123,17 +115,17 @@ public final class PathTest {
     private static void planSmooth() {
         LatticeArm none = new LatticeArm();
         C.due("34 no links", () -> none.planSmooth(0, 0), 0);
-        LatticeArm x = arm(2, 8, 8, 1, 8, 8);
+        LatticeArm x = Arms.arm(2, 8, 8, 1, 8, 8);
         C.due("34 here", () -> x.planSmooth(3, 0), 0);
         movesAre("34 here", x);
         C.due("34 one kind", () -> x.planSmooth(0, 3), 0);
         movesAre("34 one kind", x, 1, 1);
         C.due("34 two kinds", () -> x.planSmooth(-1, 2), 1);
         movesAre("34 two kinds", x, 1, 1, 3, 3);
-        LatticeArm y = arm(1, 0, 1, 1, 1, 1);
+        LatticeArm y = Arms.arm(1, 0, 1, 1, 1, 1);
         C.due("34 to the first pose", () -> y.planSmooth(2, -1), 0);
         movesAre("34 to the first pose", y, 2);
-        LatticeArm z = arm(1, 2, 2, 2, 2, 2);
+        LatticeArm z = Arms.arm(1, 2, 2, 2, 2, 2);
         C.due("34 two orders", () -> z.planSmooth(-2, -1), 1);
         movesAre("34 two orders", z, 0, 0, 2, 2);
         smoothBeatsBest();
@@ -141,7 +133,7 @@ public final class PathTest {
 
     /** Two joints from 0 to 2; the pose of the values 2 and 0 is blocked, so the moves 1 1 3 3 are not possible. */
     private static void smoothBeatsBest() {
-        LatticeArm x = arm(2, 0, 2, 1, 0, 2);
+        LatticeArm x = Arms.arm(2, 0, 2, 1, 0, 2);
         x.addObstacle(0, 3);
         C.due("34 best length", () -> x.planToPose(8), 4);
         movesAre("34 best", x, 1, 3, 1, 3);
@@ -149,7 +141,7 @@ public final class PathTest {
         C.due("34 smooth", () -> x.planSmooth(-1, 2), 1);
         movesAre("34 smooth", x, 3, 3, 1, 1);
         C.due("34 smooth changes", x::pathChanges, 1);
-        LatticeArm y = arm(2, 0, 2, 1, 0, 2);
+        LatticeArm y = Arms.arm(2, 0, 2, 1, 0, 2);
         y.addObstacle(0, 3);
         y.addObstacle(2, 1);
         C.due("34 both turns", () -> y.planSmooth(-1, 2), 2);
@@ -157,7 +149,7 @@ public final class PathTest {
     }
 
     private static void planSmoothRefused() {
-        LatticeArm x = arm(3, 2, 2);
+        LatticeArm x = Arms.arm(3, 2, 2);
         C.index("34 x", () -> x.planSmooth(-11, 0));
         C.index("34 y", () -> x.planSmooth(0, 11));
         C.element("34 no pose", () -> x.planSmooth(1, 0));
@@ -175,7 +167,7 @@ public final class PathTest {
         LatticeArm none = new LatticeArm();
         C.due("35 no links", () -> none.planNear(-7, 10), 10);
         movesAre("35 no links", none);
-        LatticeArm x = arm(3, 8, 8);
+        LatticeArm x = Arms.arm(3, 8, 8);
         C.due("35 here", () -> x.planNear(10, 0), 7);
         movesAre("35 here", x);
         C.due("35 exactly", () -> x.planNear(-3, 0), 0);
@@ -202,7 +194,7 @@ public final class PathTest {
     }
 
     private static void noPath() {
-        LatticeArm x = arm(1, 1, 1);
+        LatticeArm x = Arms.arm(1, 1, 1);
         C.element("36 none", x::pathLength);
         C.element("37 none", () -> x.pathMove(0));
         C.element("38 none", x::pathChanges);
@@ -215,7 +207,7 @@ public final class PathTest {
 
     /** In the first cell of the area, at its corner. */
     private static void corner() {
-        LatticeArm x = arm(5, 8, 8, 5, 1, 1);
+        LatticeArm x = Arms.arm(5, 8, 8, 5, 1, 1);
         x.setValue(0, -3);
         C.due("27 straight and bent", x::reachableCells, 16);
         C.due("33 here", () -> x.planToCell(-10, -10), 0);
@@ -241,7 +233,7 @@ public final class PathTest {
 
     /** A path stays at calls that fail or that are no change. */
     private static void pathStays() {
-        LatticeArm x = arm(2, 4, 4);
+        LatticeArm x = Arms.arm(2, 4, 4);
         x.planToPose(8);
         x.follow(1);
         x.addObstacle(5, 5);
@@ -274,7 +266,7 @@ public final class PathTest {
     }
 
     private static void pathGoes() {
-        LatticeArm x = arm(2, 4, 4);
+        LatticeArm x = Arms.arm(2, 4, 4);
         Runnable[] calls = {x::clear, () -> x.addLink(1, 0, 0), x::removeLink, () -> x.addLink(1, 1, 1),
             () -> x.setLimits(0, 1, 1), () -> x.addObstacle(-5, -5), () -> x.removeObstacle(-5, -5),
             () -> x.setValue(0, 0), () -> x.move(1), x::undo, x::save, x::restore,
@@ -308,7 +300,7 @@ public final class PathTest {
     }
 
     private static void pathMove() {
-        LatticeArm x = arm(2, 4, 4);
+        LatticeArm x = Arms.arm(2, 4, 4);
         x.planToPose(8);
         C.element("37 index -1", () -> x.pathMove(-1));
         C.element("37 index 4", () -> x.pathMove(4));
@@ -326,7 +318,7 @@ public final class PathTest {
     }
 
     private static void pathChanges() {
-        LatticeArm x = arm(2, 2, 2, 1, 2, 2, 1, 2, 2);
+        LatticeArm x = Arms.arm(2, 2, 2, 1, 2, 2, 1, 2, 2);
         x.planToPose(62);
         C.due("38 none", x::pathChanges, 0);
         x.planToPose(63);
@@ -342,7 +334,7 @@ public final class PathTest {
     }
 
     private static void follow() {
-        LatticeArm x = arm(2, 4, 4, 1, 2, 2);
+        LatticeArm x = Arms.arm(2, 4, 4, 1, 2, 2);
         x.planToPose(8 * 5 + 4);
         C.argument("39 negative", () -> x.follow(-1));
         C.argument("39 negative", () -> x.follow(Integer.MIN_VALUE));
@@ -364,7 +356,7 @@ public final class PathTest {
     }
 
     private static void back() {
-        LatticeArm x = arm(2, 4, 4, 1, 2, 2);
+        LatticeArm x = Arms.arm(2, 4, 4, 1, 2, 2);
         x.planToPose(8 * 5 + 4);
         C.argument("40 negative", () -> x.back(-1));
         C.due("40 at the beginning", () -> x.back(5), 0);
@@ -386,7 +378,7 @@ public final class PathTest {
         LatticeArm none = new LatticeArm();
         none.planToPose(0);
         C.due("41 no links", none::pathCells, 1);
-        LatticeArm x = arm(2, 8, 8);
+        LatticeArm x = Arms.arm(2, 8, 8);
         x.planToPose(8);
         C.due("41 one", x::pathCells, 1);
         x.planToPose(10);

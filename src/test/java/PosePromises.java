@@ -310,6 +310,11 @@ final class PosePromises {
             for (int i = 0; i < values.length; i++) {
                 c.due("case " + i, four(values[i])::winding, due[i]);
             }
+            LatticeArm x = four(8, 8, 8, 8);
+            for (int links = 3; links >= 0; links--) {
+                x.removeLink();
+                c.due(links + " links that are left", x::winding, links);
+            }
         });
     }
 
@@ -336,6 +341,17 @@ final class PosePromises {
         c.due("a neighbour", x::clearance, 1);
         x.addObstacle(5, 0);
         c.due("on the tip", x::clearance, 0);
+        int[][] behind = {{-5, 0}, {0, 5}, {0, -5}, {-5, 5}, {-5, -5}};
+        for (int[] cell : behind) {
+            LatticeArm z = Arms.arm(5, 8, 8);
+            z.addObstacle(cell[0], cell[1]);
+            c.due("from the base", z::clearance, 5);
+        }
+        LatticeArm left = Arms.arm(2, 8, 8, 5, 8, 8);
+        left.addObstacle(8, 0);
+        c.due("from the last link", left::clearance, 1);
+        left.removeLink();
+        c.due("without it", left::clearance, 6);
         LatticeArm y = Arms.arm(5, 8, 8, 5, 8, 8, 5, 8, 8, 1, 8, 8);
         y.setValue(2, 1);
         y.setValue(3, 2);

@@ -84,6 +84,10 @@ final class SpacePromises {
             c.due("when joint 0 changes first", () -> x.poseValue(4913, 0), -7);
             c.due("before that", () -> x.poseValue(4912, 0), -8);
             c.due("the present one", () -> x.poseValue(x.poseNumber(), 0), 0);
+            c.due("the last one again", () -> x.poseValue(83520, 3), 8);
+            x.setLimits(3, 0, 0);
+            c.due("the last one when joint 3 has one value", () -> x.poseValue(4912, 3), 0);
+            c.due("the last one when joint 3 has one value, joint 2", () -> x.poseValue(4912, 2), 8);
         });
         s.test("joint: the number of the joint", () -> {
             LatticeArm x = Arms.arm(1, 1, 0, 1, 2, 0, 1, 3, 0, 1, 4, 0);
@@ -161,6 +165,11 @@ final class SpacePromises {
             c.due("poses that are not free", () -> x.posesAt(-10, -10), 0);
             c.due("an obstacle", () -> x.posesAt(-1, -1), 0);
             c.due("the base", () -> x.posesAt(0, 0), 0);
+            LatticeArm y = Arms.arm(1, 0, 2);
+            c.due("one of three values", () -> y.posesAt(0, 1), 1);
+            y.setLimits(0, 0, 0);
+            c.due("the only value", () -> y.posesAt(1, 0), 1);
+            c.due("no value any more", () -> y.posesAt(0, 1), 0);
         });
         s.test(OUTSIDE, () -> LinkPromises.outside(c, (x, a, b) -> x.posesAt(a, b)));
         s.test(TOO_MANY, () -> tooMany(c, x -> x.posesAt(0, 1)));
@@ -237,6 +246,11 @@ final class SpacePromises {
             favoriteIs("connected ones alone", x, -10, -10);
             x.setValue(0, 2);
             favoriteIs("connected ones alone, the other ones", x, -10, 10);
+            LatticeArm y = Arms.arm(5, 3, 0, 4, 0, 0, 1, 1, 0);
+            y.addObstacle(-10, -10);
+            y.setValue(0, -3);
+            y.setValue(2, -1);
+            favoriteIs("the second cell of the area", y, -10, -9);
         });
         s.test("isY: true for its y, false for its x", () -> favoriteIs("one", Arms.arm(5, 7, 0, 1, 0, 0), -6, -6));
         s.test("Returns the coordinate.", () -> favoriteIs("zero", Arms.arm(1, 0, 2, 1, 0, 0), 0, 2));
@@ -305,6 +319,13 @@ final class SpacePromises {
             }
             c.due("parted by folds", Arms.arm(1, 0, 0, 1, 8, 8)::groups, 3);
             c.due("no wrap between the limits", Arms.arm(1, 0, 0, 1, 4, 4)::groups, 1);
+            LatticeArm y = Arms.arm(2, 1, 1, 1, 0, 2, 1, 0, 1);
+            y.addObstacle(2, 0);
+            for (int links = 3; links >= 1; links--) {
+                c.due("parted, " + links + " links", y::groups, 2);
+                y.removeLink();
+            }
+            c.due("no links any more", y::groups, 1);
         });
         s.test(TOO_MANY, () -> tooMany(c, LatticeArm::groups));
     }
@@ -323,6 +344,12 @@ final class SpacePromises {
             LatticeArm x = Arms.arm(2, 1, 3);
             x.addObstacle(2, 0);
             c.due("not to or from a pose that is not free", x::freedom, 1.0);
+            LatticeArm y = Arms.arm(1, 1, 1, 1, 1, 1, 1, 0, 1);
+            double[] due = {66.0 / 18.0, 24.0 / 9.0, 4.0 / 3.0, 0.0};
+            for (int removed = 0; removed < 4; removed++) {
+                c.due(removed + " links removed", y::freedom, due[removed]);
+                Checks.answerOf(y::removeLink);
+            }
         });
         s.test(TOO_MANY, () -> tooMany(c, LatticeArm::freedom));
         s.test("Throws ArithmeticException if there is no free pose", () -> {

@@ -21,22 +21,8 @@ public final class TextTest {
         C.end();
     }
 
-    private static LatticeArm arm(int... numbers) {
-        LatticeArm x = new LatticeArm();
-        for (int i = 0; i + 2 < numbers.length; i += 3) {
-            x.addLink(numbers[i], numbers[i + 1], numbers[i + 2]);
-        }
-        return x;
-    }
-
-    private static void write(LatticeArm x, String text) {
-        for (char c : text.toCharArray()) {
-            x.append(c);
-        }
-    }
-
     private static void bookmark() {
-        LatticeArm x = arm(1, 2, 2);
+        LatticeArm x = Arms.arm(1, 2, 2);
         C.argument("42 code 96", () -> x.bookmark((char) 96));
         C.argument("42 code 123", () -> x.bookmark((char) 123));
         C.argument("42 code 0", () -> x.bookmark((char) 0));
@@ -60,7 +46,7 @@ public final class TextTest {
     }
 
     private static void bookmarkStays() {
-        LatticeArm x = arm(1, 2, 2);
+        LatticeArm x = Arms.arm(1, 2, 2);
         x.save();
         x.setValue(0, 2);
         x.planToPose(0);
@@ -81,17 +67,10 @@ public final class TextTest {
         x.bookmark('c');
         x.restore();
         C.due("42 is not saved", () -> x.planToName('c'), 0);
-        LatticeArm y = parted();
+        LatticeArm y = Arms.parted();
         C.due("42 a pose that is not free", () -> y.bookmark('x'), 1);
         y.setValue(0, 1);
         C.element("43 to it", () -> y.planToName('x'));
-    }
-
-    /** One joint with three values, of which 0, the present one, is not free. */
-    private static LatticeArm parted() {
-        LatticeArm x = arm(2, 1, 1);
-        x.addObstacle(2, 0);
-        return x;
     }
 
     private static void planToName() {
@@ -101,7 +80,7 @@ public final class TextTest {
         C.due("43 no links, path", none::pathLength, 0);
         none.addLink(1, 0, 0);
         C.due("43 no values", () -> none.planToName('k'), "UnsupportedOperationException");
-        LatticeArm x = arm(2, 3, 3, 1, 2, 2);
+        LatticeArm x = Arms.arm(2, 3, 3, 1, 2, 2);
         x.setValue(0, -2);
         x.setValue(1, 1);
         x.bookmark('h');
@@ -122,7 +101,7 @@ public final class TextTest {
     }
 
     private static void planToNameRefused() {
-        LatticeArm x = arm(2, 3, 3);
+        LatticeArm x = Arms.arm(2, 3, 3);
         C.argument("43 code 96", () -> x.planToName('`'));
         C.argument("43 code 123", () -> x.planToName('{'));
         C.due("43 not used", () -> x.planToName('a'), "UnsupportedOperationException");
@@ -142,7 +121,7 @@ public final class TextTest {
         C.due("43 a link less", () -> x.planToName('c'), "UnsupportedOperationException");
         x.addObstacle(0, 1);
         C.element("43 no path", () -> x.planToName('a'));
-        LatticeArm y = arm(1, 8, 8, 1, 8, 8, 1, 8, 8, 1, 1, 1);
+        LatticeArm y = Arms.arm(1, 8, 8, 1, 8, 8, 1, 8, 8, 1, 1, 1);
         C.due("43 not used first", () -> y.planToName('a'), "UnsupportedOperationException");
         y.bookmark('a');
         C.state("43 too many", () -> y.planToName('a'));
@@ -170,7 +149,7 @@ public final class TextTest {
 
     private static void read() {
         LatticeArm x = new LatticeArm();
-        write(x, "L5(-8,0);O-10,10;O0,-1;L1(-0,8);O1,-0;");
+        Arms.write(x, "L5(-8,0);O-10,10;O0,-1;L1(-0,8);O1,-0;");
         C.due("45 five", x::read, 5);
         C.due("45 links", () -> x.count(0), 2);
         int[] due = {0, -8, 0, 5};
@@ -189,17 +168,17 @@ public final class TextTest {
         C.due("45 input is empty", () -> x.append('O'), 1);
         C.due("45 one change", x::undo, 0);
         C.due("45 all undone", () -> x.count(0) + x.count(1), 0);
-        write(x, "-2,9;");
+        Arms.write(x, "-2,9;");
         C.due("45 the rest", x::read, 1);
         C.due("45 x", () -> x.obstacle(0, false), -2);
         C.due("45 y", () -> x.obstacle(0, true), 9);
         LatticeArm y = new LatticeArm();
-        write(y, "O1,1;O1,2;O1,3;O1,4;O1,5;O1,6;O1,7;O1,8;O1,9;O2,0;O2,1;O2,2;");
+        Arms.write(y, "O1,1;O1,2;O1,3;O1,4;O1,5;O1,6;O1,7;O1,8;O1,9;O2,0;O2,1;O2,2;");
         C.due("45 sixty characters", y::read, 12);
-        LatticeArm z = arm(1, 2, 2);
+        LatticeArm z = Arms.arm(1, 2, 2);
         z.setValue(0, 1);
         z.planToPose(0);
-        write(z, "L2(-1,1);");
+        Arms.write(z, "L2(-1,1);");
         C.due("45 one", z::read, 1);
         C.due("45 the others stay", () -> z.joint(0, 0), 1);
         C.element("45 no path then", z::pathLength);
@@ -208,11 +187,11 @@ public final class TextTest {
     private static void readRefused() {
         String[] texts = {"O0,0;", "O-0,-0;", "O3,3;O0,0;", "O3,3;O3,3;", "O5,5;", "O4,4;L1(-1,1);L1(-1,1);O5,5;",
             "L1(-0,0);L1(-0,0);L1(-0,0);L1(-0,0);"};
-        LatticeArm x = arm(2, 2, 2);
+        LatticeArm x = Arms.arm(2, 2, 2);
         x.addObstacle(5, 5);
         x.planToPose(0);
         for (String text : texts) {
-            write(x, text);
+            Arms.write(x, text);
             C.state("45 " + text, x::read);
             C.due("45 input is empty", () -> x.append('O'), 1);
             C.argument("45 O", x::read);
@@ -226,13 +205,13 @@ public final class TextTest {
         for (int i = 0; i < 59; i++) {
             y.addObstacle(i % 20 - 10, 2 + i / 20);
         }
-        write(y, "O9,9;O8,8;");
+        Arms.write(y, "O9,9;O8,8;");
         C.state("45 sixty-one obstacles", y::read);
         C.due("45 none of them", () -> y.count(1), 59);
         C.element("46 none kept", y::errorPosition);
-        write(y, "O9,9;");
+        Arms.write(y, "O9,9;");
         C.due("45 sixty obstacles", y::read, 1);
-        write(y, "O8,8;L9");
+        Arms.write(y, "O8,8;L9");
         C.argument("45 no text first", y::read);
         C.due("46 position", y::errorPosition, 6);
     }
@@ -247,13 +226,13 @@ public final class TextTest {
             8, 6, 2, 4, 2, 1, 3, 4, 0, 4, 4, 2, 2, 2, 9, 3, 4, 3, 4, 4};
         LatticeArm x = new LatticeArm();
         for (int i = 0; i < texts.length; i++) {
-            write(x, texts[i]);
+            Arms.write(x, texts[i]);
             C.argument("45 " + texts[i], x::read);
             C.due("46 " + texts[i], x::errorPosition, due[i]);
         }
         C.due("46 nothing was added", () -> x.count(0) + x.count(1), 0);
         LatticeArm y = new LatticeArm();
-        write(y, "O1,1;O1,2;O1,3;O1,4;O1,5;O1,6;O1,7;O1,8;O1,9;O2,0;O2,1;O10,1");
+        Arms.write(y, "O1,1;O1,2;O1,3;O1,4;O1,5;O1,6;O1,7;O1,8;O1,9;O2,0;O2,1;O10,1");
         C.argument("45 sixty characters", y::read);
         C.due("46 sixty characters", y::errorPosition, 60);
     }
@@ -264,14 +243,14 @@ public final class TextTest {
         for (int size = 0; size <= text.length(); size++) {
             String part = text.substring(0, size);
             LatticeArm x = new LatticeArm();
-            write(x, part);
+            Arms.write(x, part);
             if (part.endsWith(";")) {
                 C.due("45 " + part, x::read, part.split(";").length);
             } else {
                 C.argument("45 " + part, x::read);
                 C.due("46 " + part, x::errorPosition, size);
             }
-            write(x, part + "!");
+            Arms.write(x, part + "!");
             C.argument("45 " + part + "!", x::read);
             C.due("46 " + part + "!", x::errorPosition, size);
         }
@@ -280,22 +259,22 @@ public final class TextTest {
     private static void errorPositionStays() {
         LatticeArm x = new LatticeArm();
         C.element("46 none", x::errorPosition);
-        write(x, "O1,1;");
+        Arms.write(x, "O1,1;");
         x.read();
         C.element("46 none after a text", x::errorPosition);
-        write(x, "O1,1;");
+        Arms.write(x, "O1,1;");
         C.state("45 twice", x::read);
         C.element("46 none after a refused text", x::errorPosition);
-        write(x, "O1,");
+        Arms.write(x, "O1,");
         C.argument("45 no end", x::read);
         C.due("46 three", x::errorPosition, 3);
-        write(x, "O2,1;");
+        Arms.write(x, "O2,1;");
         x.save();
         x.read();
         x.undo();
         x.restore();
         x.clear();
-        write(x, "O0,0;");
+        Arms.write(x, "O0,0;");
         C.state("45 base", x::read);
         C.due("46 still three", x::errorPosition, 3);
         C.argument("45 empty", x::read);
@@ -320,7 +299,7 @@ public final class TextTest {
         C.due("47 link", x::undo, 0);
         C.due("47 links", () -> x.count(0), 0);
         C.element("47 none again", x::undo);
-        LatticeArm y = arm(2, 4, 4);
+        LatticeArm y = Arms.arm(2, 4, 4);
         y.planToPose(8);
         y.follow(3);
         y.setValue(0, -1);
@@ -329,7 +308,7 @@ public final class TextTest {
     }
 
     private static void undoLimit() {
-        LatticeArm x = arm(1, 8, 8);
+        LatticeArm x = Arms.arm(1, 8, 8);
         for (int v = 1; v <= 8; v++) {
             x.setValue(0, v);
         }
@@ -353,7 +332,7 @@ public final class TextTest {
     }
 
     private static void undoEach() {
-        LatticeArm x = arm(3, 4, 4, 2, 3, 3);
+        LatticeArm x = Arms.arm(3, 4, 4, 2, 3, 3);
         x.addObstacle(4, 4);
         x.addObstacle(5, 4);
         x.setValue(0, 2);
@@ -362,7 +341,7 @@ public final class TextTest {
         Runnable[] calls = {() -> x.addLink(1, 1, 1), x::removeLink, () -> x.setLimits(0, 1, 1),
             () -> x.addObstacle(9, 9), () -> x.removeObstacle(4, 4), () -> x.setValue(0, -4), () -> x.move(3),
             () -> {
-                write(x, "L1(-1,2);O8,8;");
+                Arms.write(x, "L1(-1,2);O8,8;");
                 x.read();
             }};
         String before = state(x);
@@ -420,7 +399,7 @@ public final class TextTest {
     }
 
     private static void restore() {
-        LatticeArm x = arm(2, 2, 2);
+        LatticeArm x = Arms.arm(2, 2, 2);
         C.state("49 nothing saved", x::restore);
         x.setValue(0, 2);
         x.save();
