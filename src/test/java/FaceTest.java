@@ -8,9 +8,10 @@ import java.nio.file.Path;
 import java.util.Arrays;
 import java.util.Set;
 import java.util.TreeSet;
+import java.util.regex.Matcher;
 import java.util.regex.Pattern;
 
-/** The public face as the document lists it, and what of LANGUAGE.md can be seen without running the program. */
+/** The public face as the document lists it, and those rules of LANGUAGE.md that are easily seen in the file. */
 public final class FaceTest {
     private static final Checks C = new Checks();
 
@@ -18,7 +19,11 @@ public final class FaceTest {
         methods();
         members();
         classes();
-        source();
+        String text = Files.readString(Path.of("src/main/java/LatticeArm.java"));
+        source(text);
+        library(text);
+        objects(text);
+        lengths(text);
         C.end();
     }
 
@@ -60,6 +65,11 @@ public final class FaceTest {
         for (Method method : LatticeArm.class.getMethods()) {
             face.add(method.getName());
         }
+        for (Method method : LatticeArm.class.getDeclaredMethods()) {
+            boolean isOwn = Modifier.isPrivate(method.getModifiers());
+            C.due("private " + method.getName() + " has no name of the face",
+                    () -> isOwn && face.contains(method.getName()), false);
+        }
         for (Class<?> inside : LatticeArm.class.getDeclaredClasses()) {
             for (Method method : inside.getDeclaredMethods()) {
                 C.due(inside.getSimpleName() + "." + method.getName() + " has no name of the face",
@@ -71,19 +81,71 @@ public final class FaceTest {
     private static void classes() {
         Class<?>[] inside = LatticeArm.class.getDeclaredClasses();
         C.due("at most twelve classes", () -> inside.length <= 11, true);
+        small(LatticeArm.class);
         for (Class<?> one : inside) {
             C.due(one + " is static", () -> Modifier.isStatic(one.getModifiers()), true);
-            C.due(one + " has few fields", () -> one.getDeclaredFields().length <= 20, true);
+            small(one);
         }
     }
 
-    private static void source() throws IOException {
-        String text = Files.readString(Path.of("src/main/java/LatticeArm.java"));
+    private static void small(Class<?> one) {
+        C.due(one + " has few fields", () -> Arrays.stream(one.getDeclaredFields())
+                .filter(field -> !Modifier.isStatic(field.getModifiers())).count() <= 20, true);
+        for (Method method : one.getDeclaredMethods()) {
+            C.due(method + " has few parameters", () -> method.getParameterCount() <= 7, true);
+        }
+    }
+
+    private static void source(String text) {
         String[] forbidden = {"\\bcatch\\b", "\\btry\\b", "\\bfinally\\b", "->", "::", "\\bsynchronized\\b",
             "\\bassert\\b", "\\bpackage\\b", "\\bSystem\\.(?!arraycopy)", "Exact\\(", "\\bequals\\b", "\\bObject\\b",
             "\\bnew int\\[[a-z]", "[^\\x00-\\x7f]"};
         for (String sign : forbidden) {
             C.due("the source has " + sign, () -> Pattern.compile(sign).matcher(text).find(), false);
         }
+    }
+
+    /** What is imported, called by the name of its class, or thrown, and is not allowed. */
+    private static void library(String text) {
+        C.due("wrongly imported", () -> wrong(text, "import (.*);", Set.of("java.util.Arrays",
+                "java.util.NoSuchElementException")), Set.of());
+        C.due("wrongly called", () -> wrong(text, "\\b([A-Z][a-z]+\\.[a-z]\\w*)\\(", Set.of("Arrays.fill", "Math.abs",
+                "Math.floorDiv", "Math.floorMod", "Math.max", "Math.min", "System.arraycopy")), Set.of());
+        C.due("wrongly thrown", () -> wrong(text, "\\bthrow (?:new (\\w+)\\(\"[^\"]+\"\\);|.*)", Set.of(
+                "IllegalArgumentException", "IllegalStateException", "IndexOutOfBoundsException",
+                "NoSuchElementException", "ArithmeticException", "UnsupportedOperationException")), Set.of());
+    }
+
+    /** A call makes nothing but exceptions: all else is made with the object. */
+    private static void objects(String text) {
+        String made = " +(private )?final [\\w\\[\\]]+ \\w+ = new .*| +past\\[i\\] = new Scene\\(\\);| +throw new .*";
+        for (String line : text.split("\n")) {
+            if (line.matches(".*\\bnew\\b.*")) {
+                C.due("made with the object, or thrown: " + line.strip(), () -> line.matches(made), true);
+            }
+        }
+    }
+
+    private static void lengths(String text) {
+        String head = "( {4}| {8})(?!return |throw |else )(?:\\w+ )*[\\w\\[\\]]+ (\\w+)\\([^;{]*\\{";
+        Matcher method = Pattern.compile("(?ms)^" + head + "$.*?^\\1\\}$").matcher(text);
+        int methods = 0;
+        while (method.find()) {
+            methods++;
+            long lines = method.group().lines().count();
+            C.due(method.group(2) + " has some sixty lines at the most", () -> lines <= 60, true);
+        }
+        int found = methods;
+        C.due("methods are found", () -> found > 48, true);
+    }
+
+    private static Set<String> wrong(String text, String kind, Set<String> allowed) {
+        Set<String> found = new TreeSet<>();
+        Matcher matcher = Pattern.compile(kind).matcher(text);
+        while (matcher.find()) {
+            found.add(String.valueOf(matcher.group(1)));
+        }
+        found.removeAll(allowed);
+        return found;
     }
 }

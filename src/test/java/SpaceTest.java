@@ -33,7 +33,7 @@ public final class SpaceTest {
         C.state("30 too many", x::groups);
         C.state("31 too many", x::freedom);
         x.setValue(1, 4);
-        C.due("not free", x::fault, 3);
+        C.due("26 not free", x::fault, 3);
         C.state("26 too many, not free", x::connected);
         C.state("27 too many, not free", x::reachableCells);
         C.state("28 too many, not free", () -> x.favorite(false));
