@@ -91,7 +91,7 @@ public final class ReadmeTest {
 
     private static void tests(String page) {
         Set<String> there = new TreeSet<>();
-        for (String name : new File("src/test/java").list()) {
+        for (String name : new File("src/test/java").list((folder, file) -> file.endsWith(".java"))) {
             there.add(name.replaceAll("\\.java$", ""));
         }
         Set<String> told = quoted(page, "[A-Z]\\w+");
